@@ -1,0 +1,117 @@
+import java.lang.management.ManagementFactory;
+import java.lang.reflect.Constructor;
+import java.lang.reflect.Field;
+import java.lang.reflect.Method;
+import java.lang.reflect.Modifier;
+import java.nio.file.Files;
+import java.nio.file.Path;
+import java.util.Set;
+import java.util.TreeSet;
+
+/** The public face, what the language rules out, how little the calls make, and odd arguments of every call. */
+public final class FaceTest {
+    private static final Check check = new Check();
+    private static final Set<String> FACE = Set.of("int proclaim()", "int forget()", "int rank(int,int)",
+        "int teach(int,int)", "int carve(int,int)", "int burn(int)", "int set(int)", "int append(int)",
+        "int clearBuffer()", "int firstError()", "int undo()", "int day(int,int,int)", "int feast(int,int)",
+        "int when(int,int,int,boolean)", "int settled(int,int)", "int quarrels(int)", "int stick(int,int)",
+        "int count(int)", "int range(int,int,int,boolean)", "int alike(int)", "int peace(int,int)",
+        "int moved(int,int)", "double freshShare()", "long digest()");
+    private static final int[] ODD = {Integer.MIN_VALUE, -1001, -91, -6, -1, 0, 1, 2, 5, 10, 33, 126, 365, 366, 400, 999,
+        1000, Integer.MAX_VALUE - 1, Integer.MAX_VALUE};
+
+    public static void main(String[] args) throws Exception {
+        face();
+        language();
+        room();
+        oddArguments();
+        check.finish("FaceTest");
+    }
+
+    private static void face() {
+        Set<String> methods = new TreeSet<>();
+        Set<String> publicNames = new TreeSet<>();
+        for (Method m : RunicSticks.class.getDeclaredMethods()) {
+            if (!Modifier.isPrivate(m.getModifiers())) {
+                methods.add(signature(m));
+                publicNames.add(m.getName());
+                check.same(m.getName() + " is public", Modifier.isPublic(m.getModifiers()) ? 1 : 0, 1);
+            }
+        }
+        check.same("the methods", methods.toString(), new TreeSet<>(FACE).toString());
+        for (Method m : RunicSticks.class.getDeclaredMethods()) {
+            boolean borrowed = Modifier.isPrivate(m.getModifiers()) && publicNames.contains(m.getName());
+            check.same(m.getName() + " is a private method with a public name", borrowed ? 1 : 0, 0);
+        }
+        for (Field f : RunicSticks.class.getDeclaredFields()) {
+            int due = f.getName().equals("NONE") ? Modifier.PUBLIC : Modifier.PRIVATE;
+            check.same("the field " + f.getName(), f.getModifiers() & (Modifier.PUBLIC | Modifier.PRIVATE), due);
+        }
+        for (Constructor<?> c : RunicSticks.class.getDeclaredConstructors()) {
+            check.same("the constructor " + c, c.toString(), "public RunicSticks()");
+        }
+        check.same("the class is final", Modifier.isFinal(RunicSticks.class.getModifiers()) ? 1 : 0, 1);
+    }
+
+    private static String signature(Method m) {
+        StringBuilder s = new StringBuilder(m.getReturnType().getName()).append(' ').append(m.getName()).append('(');
+        String between = "";
+        for (Class<?> type : m.getParameterTypes()) {
+            s.append(between).append(type.getName());
+            between = ",";
+        }
+        return s.append(')').toString();
+    }
+
+    private static void language() throws Exception {
+        String source = Files.readString(Path.of("src/main/java/RunicSticks.java"));
+        for (String word : new String[] {"import ", "->", "::", "catch", "finally", "Double", "Math.", "synchronized",
+            "assert ", "package ", "System."}) {
+            check.same("the source has '" + word + "'", source.indexOf(word), -1);
+        }
+    }
+
+    /** A run's objects stay few: the calls use the rows that the constructor has made. */
+    private static void room() {
+        com.sun.management.ThreadMXBean bean = (com.sun.management.ThreadMXBean) ManagementFactory.getThreadMXBean();
+        RunicSticks x = Check.calendar("m0,1;m9,2;m99,3;m200,4;w5,5;w300,6;d50;a0+7;a1-3;d365", -5, 0, 5);
+        long before = bean.getCurrentThreadAllocatedBytes();
+        for (int call = 0; call < 250; call++) {
+            x.carve(call, 1);
+            x.digest();
+        }
+        long made = bean.getCurrentThreadAllocatedBytes() - before;
+        check.same("500 calls make under 64 KiB: " + made, made < 65536 ? 1 : 0, 1);
+    }
+
+    private static void oddArguments() throws Exception {
+        for (String text : new String[] {"d0", "m0,0;a0+90;w365,6;d365;d365"}) {
+            RunicSticks x = Check.calendar(text, 5, -5, 0);
+            x.carve(0, 1);
+            for (Method m : RunicSticks.class.getDeclaredMethods()) {
+                if (Modifier.isPublic(m.getModifiers())) {
+                    oddCalls(x, m, new Object[m.getParameterCount()], 0);
+                }
+            }
+        }
+    }
+
+    private static void oddCalls(RunicSticks x, Method m, Object[] given, int at) throws Exception {
+        if (at < given.length) {
+            boolean isFlag = m.getParameterTypes()[at] == boolean.class;
+            for (int odd : ODD) {
+                given[at] = isFlag ? (Object) (odd > 0) : (Object) odd;
+                oddCalls(x, m, given, at + 1);
+            }
+            return;
+        }
+        String answer = "";
+        try {
+            m.invoke(x, given);
+        } catch (java.lang.reflect.InvocationTargetException e) {
+            boolean named = Set.of(m.getExceptionTypes()).contains(e.getCause().getClass());
+            answer = named ? "" : e.getCause().toString();
+        }
+        check.same(m.getName() + java.util.Arrays.toString(given), answer, "");
+    }
+}
