@@ -890,7 +890,6 @@ public final class RunicSticks {
             days = daysIn(year);
             firstWeekday = newYearWeekday(year);
             shift = moonShift(year, slip, state.moonYears);
-            propers.putNowhere();
             for (int feast = 0; feast < state.feasts; feast++) {
                 propers.put(feast, orNone(dayByRule(state, feast)));
             }

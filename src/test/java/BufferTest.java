@@ -8,6 +8,7 @@ public final class BufferTest {
         firstError();
         firstErrorOfLongTexts();
         undo();
+        undoRestoresAll();
         undoLeavesTheBuffer();
         check.finish("BufferTest");
     }
@@ -103,6 +104,33 @@ public final class BufferTest {
         x.set(80);
         check.same("undo goes back by one", x.undo(), 1);
         check.same("the setting", x.count(5), 60);
+    }
+
+    /** Some calls, and as many undos: then the digest, which tells the whole state, is as it was. */
+    private static void undone(String name, RunicSticks x, Check.Call... calls) {
+        long before = x.digest();
+        for (Check.Call call : calls) {
+            call.run();
+        }
+        for (int i = 0; i < calls.length; i++) {
+            x.undo();
+        }
+        check.same("undo of " + name, x.digest(), before);
+    }
+
+    private static void undoRestoresAll() {
+        RunicSticks x = Check.calendar("m0,5^1;a0+7;w80,0");
+        x.carve(0, 2);
+        undone("feasts", x, x::forget, x::forget, x::forget, () -> Check.proclaim(x, "d9;w8,3;a1-7^5"));
+        undone("a rule", x, x::forget, x::forget, () -> Check.proclaim(x, "d9"));
+        undone("another feast", x, x::forget, () -> Check.proclaim(x, "a0+80"), x::forget,
+            () -> Check.proclaim(x, "a1+80"));
+        undone("ranks", x, () -> x.rank(0, 9), () -> x.rank(1, 8), () -> x.rank(2, 7));
+        undone("slips", x, () -> x.teach(0, 5), () -> x.teach(1, -5), () -> x.teach(2, 1), () -> x.set(50));
+        undone("sticks", x, () -> x.carve(4, 1), () -> x.burn(1), () -> x.burn(0));
+        undone("a stick's feasts", x, () -> x.burn(0), x::forget, () -> x.rank(1, 3), () -> x.carve(777, 0));
+        undone("nothing changed", x, () -> x.teach(0, 0), () -> x.set(300), () -> x.rank(0, 1));
+        undone("none added", x, () -> Check.proclaim(x, "a9+1"));
     }
 
     private static void undoLeavesTheBuffer() {
