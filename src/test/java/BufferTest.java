@@ -129,6 +129,10 @@ public final class BufferTest {
         undone("slips", x, () -> x.teach(0, 5), () -> x.teach(1, -5), () -> x.teach(2, 1), () -> x.set(50));
         undone("sticks", x, () -> x.carve(4, 1), () -> x.burn(1), () -> x.burn(0));
         undone("a stick's feasts", x, () -> x.burn(0), x::forget, () -> x.rank(1, 3), () -> x.carve(777, 0));
+        RunicSticks stale = Check.calendar("d1;d1;d1");
+        stale.carve(0, 0);
+        stale.rank(2, 9);
+        undone("a stick that tells fewer feasts", stale, () -> stale.burn(0), stale::forget, () -> stale.carve(0, 0));
         undone("nothing changed", x, () -> x.teach(0, 0), () -> x.set(300), () -> x.rank(0, 1));
         undone("none added", x, () -> Check.proclaim(x, "a9+1"));
     }
