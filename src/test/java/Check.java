@@ -27,6 +27,22 @@ final class Check {
         same(what + " changes nothing: digest", x.digest(), before);
     }
 
+    /** The call throws just this exception, and leaves what the object would answer, and what undo brings back. */
+    void refusesLikeTwin(String what, RunicSticks x, RunicSticks twin, Class<? extends RuntimeException> due, Call call) {
+        same(what, thrownBy(call), due.getSimpleName());
+        sameThroughout(what + " changes nothing", x, twin);
+    }
+
+    /** Both have the same state, buffer and saved states; the saved states are used up by that. */
+    void sameThroughout(String what, RunicSticks x, RunicSticks twin) {
+        same(what + ": digest", x.digest(), twin.digest());
+        same(what + ": firstError", x.firstError(), twin.firstError());
+        for (int left = twin.count(7); left > 0; left--) {
+            same(what + ": undo", x.undo(), twin.undo());
+            same(what + ": digest after undo", x.digest(), twin.digest());
+        }
+    }
+
     static String thrownBy(Call call) {
         try {
             call.run();

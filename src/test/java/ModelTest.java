@@ -2,11 +2,12 @@
 public final class ModelTest {
     private static final Check check = new Check();
     private static final int RUNS = 120;
-    private static final int CALLS = 500;
+    private static final int CALLS = 512;
 
     private long seed;
     private final RunicSticks x = new RunicSticks();
     private final Model model = new Model();
+    private int made = 0;
 
     private interface Answer {
         Object of();
@@ -25,10 +26,10 @@ public final class ModelTest {
 
     private void run(int run) {
         int ranks = 1 + below(4);
-        for (int call = 0; call < CALLS; call++) {
-            String name = "run " + run + ", call " + call + ": ";
+        while (made < CALLS) {
+            String name = "run " + run + ", call " + made + ": ";
             if (below(100) < 12) {
-                call += typeFeasts(name, ranks);
+                typeFeasts(name, ranks);
             } else {
                 oneCall(name, below(24));
             }
@@ -60,7 +61,7 @@ public final class ModelTest {
     }
 
     private int feast() {
-        return near(0, Math.max(0, x.count(0) - 1));
+        return near(0, Math.max(0, model.count(0) - 1));
     }
 
     private static String answered(Answer answer) {
@@ -71,8 +72,12 @@ public final class ModelTest {
         }
     }
 
+    /** One call on both, up to the last that is promised. */
     private void alike(String name, Answer ours, Answer due) {
-        check.same(name, answered(ours), answered(due));
+        if (made < CALLS) {
+            made++;
+            check.same(name, answered(ours), answered(due));
+        }
     }
 
     private void oneCall(String name, int kind) {
@@ -128,8 +133,8 @@ public final class ModelTest {
         }
     }
 
-    /** Types some feasts, now and then with a slip of the pen, and proclaims them; answers how many calls it took. */
-    private int typeFeasts(String name, int ranks) {
+    /** Types some feasts, now and then with a slip of the pen, and proclaims them. */
+    private void typeFeasts(String name, int ranks) {
         StringBuilder text = new StringBuilder();
         int feasts = 1 + below(3);
         for (int i = 0; i < feasts; i++) {
@@ -147,7 +152,6 @@ public final class ModelTest {
         }
         alike(name + "firstError", () -> x.firstError(), () -> model.firstError());
         alike(name + "proclaim", () -> x.proclaim(), () -> model.proclaim());
-        return text.length() + 3;
     }
 
     private String madeFeast(int ranks) {
@@ -160,7 +164,7 @@ public final class ModelTest {
             case 1:
                 return "w" + day + "," + weekday + rank;
             case 2:
-                int other = below(3) == 0 ? below(10) : below(Math.max(1, x.count(0)));
+                int other = below(3) == 0 ? below(10) : below(Math.max(1, model.count(0)));
                 return "a" + other + (below(2) == 0 ? "+" : "-") + (below(2) == 0 ? below(4) : below(93)) + rank;
             default:
                 return "m" + day + "," + weekday + rank;

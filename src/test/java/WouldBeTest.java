@@ -59,8 +59,8 @@ public final class WouldBeTest {
         check.same("none up to 999", bare.alike(994), -1);
         check.same("none up to 999", bare.alike(972), -1);
         check.same("the last one", bare.alike(999), -1);
-        RunicSticks moon = Check.calendar("m0,0");
         for (int year = 0; year < 200; year += 7) {
+            RunicSticks moon = Check.calendar("m0,0");
             check.same("alike " + year, moon.alike(year), slowAlike(moon, year));
         }
         // 411 is like 310, and no year between them, but it is 101 years later
@@ -182,36 +182,64 @@ public final class WouldBeTest {
         return hash;
     }
 
-    private static void digest() {
+    private interface Step {
+        void on(RunicSticks x);
+    }
+
+    /** An object is promised for 512 calls alone, so the one that tells what is due is another one, made alike. */
+    private static void digestIs(String name, String buffer, Step... steps) {
         RunicSticks x = new RunicSticks();
-        check.same("digest of a new one", x.digest(), digestOf(x, ""));
-        Check.type(x, "d5;x~!");
-        check.same("digest with a buffer", x.digest(), digestOf(x, "d5;x~!"));
-        x.clearBuffer();
-        Check.proclaim(x, "m0,5^1;d12;w80,0;a2-46^9;a3+90;d365;d365");
-        check.same("digest with feasts", x.digest(), digestOf(x, ""));
-        x.teach(0, -3);
-        x.teach(1, 5);
-        x.teach(2, -5);
-        x.set(50);
-        check.same("digest with slips", x.digest(), digestOf(x, ""));
-        for (int year = 0; year < 6; year++) {
-            x.carve(year * 100, year % 3);
-            x.forget();
-            check.same("digest with sticks", x.digest(), digestOf(x, ""));
+        RunicSticks twin = new RunicSticks();
+        for (Step step : steps) {
+            step.on(x);
+            step.on(twin);
+        }
+        check.same(name, x.digest(), digestOf(twin, buffer));
+    }
+
+    private static void digest() {
+        digestIs("digest of a new one", "");
+        digestIs("digest with a buffer", "d5;x~!", x -> Check.type(x, "d5;x~!"));
+        Step feasts = x -> Check.proclaim(x, "m0,5^1;d12;w80,0;a2-46^9;a3+90;d365;d365");
+        digestIs("digest with feasts", "", feasts);
+        Step settings = x -> {
+            x.teach(0, -3);
+            x.teach(1, 5);
+            x.teach(2, -5);
+            x.set(50);
+        };
+        digestIs("digest with slips", "", feasts, settings);
+        for (int sticks = 1; sticks <= 6; sticks++) {
+            int last = sticks;
+            digestIs("digest with sticks", "", feasts, settings, x -> carveAndForget(x, last));
         }
         sharesOfAllKinds();
+    }
+
+    private static void carveAndForget(RunicSticks x, int sticks) {
+        for (int year = 0; year < sticks; year++) {
+            x.carve(year * 100, year % 3);
+            x.forget();
+        }
     }
 
     /** Shares from 0.0 to 1.0, whose bits the digest tells. */
     private static void sharesOfAllKinds() {
         for (int feasts = 1; feasts <= 10; feasts++) {
-            RunicSticks x = Check.calendar("d1;".repeat(feasts - 1) + "d1");
-            x.carve(1, 0);
-            for (int left = feasts - 1; left >= 0; left--) {
-                x.forget();
+            String text = "d1;".repeat(feasts - 1) + "d1";
+            for (int left = feasts; left >= 0; left--) {
+                int forgotten = feasts - left;
+                Step step = x -> {
+                    Check.proclaim(x, text);
+                    x.carve(1, 0);
+                    for (int i = 0; i < forgotten; i++) {
+                        x.forget();
+                    }
+                };
+                RunicSticks x = new RunicSticks();
+                step.on(x);
                 check.same("the share", x.freshShare(), (double) left / feasts);
-                check.same("digest with a share", x.digest(), digestOf(x, ""));
+                digestIs("digest with a share", "", step);
             }
         }
     }
