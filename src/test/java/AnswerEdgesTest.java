@@ -325,6 +325,8 @@ public final class AnswerEdgesTest {
         peaceIs(TEN_MOONS, -5, -5, 5, 1, 5);
         // none by all is peace too: m363,0 tells none by -1 and by 1, but not by 0; so it is the lower one
         peaceIs("m363,0", 5, 0, 1, 1, 4);
+        // over all ten by 0; over nine by 3, 4 and 5, by which m0,0 tells 7
+        peaceIs("m0,0;m0,5;a1+20;a1+21;a1+22;a1+23;a1+24;a1+25;a1+26;a1+27", 4, 0, 5, 1, 8);
         // -4 and 4 are the only ones by which they quarrel least
         peaceIs("m0,6^1;d13", -5, 0, 5, 1, 1);
     }
@@ -359,6 +361,13 @@ public final class AnswerEdgesTest {
         RunicSticks buffer = new RunicSticks();
         Check.type(buffer, "!~");
         digestIs("a buffer", buffer, 0, 0, 5, 5, 5, 300, 0, 0, 0, 0, 0, 0, 0, 0, 0, 0, 0, 0, 0, 0, 48, 5, one, 2, 33, 126);
+        RunicSticks full = new RunicSticks();
+        Check.type(full, "~".repeat(60));
+        long[] signs = new long[84];
+        System.arraycopy(new long[] {0, 0, 5, 5, 5, 300, 0, 0, 0, 0, 0, 0, 0, 0, 0, 0, 0, 0, 0, 0, 48, 5, one, 60}, 0,
+            signs, 0, 24);
+        java.util.Arrays.fill(signs, 24, 84, 126);
+        digestIs("a full buffer", full, signs);
         RunicSticks day = Check.calendar("d365^9");
         day.carve(777, 1);
         long[] values = {1, 1, 5, 5, 5, 300, 0, 2,

@@ -5,6 +5,8 @@ import java.lang.reflect.Method;
 import java.lang.reflect.Modifier;
 import java.nio.file.Files;
 import java.nio.file.Path;
+import java.util.ArrayList;
+import java.util.List;
 import java.util.Set;
 import java.util.TreeSet;
 
@@ -17,12 +19,16 @@ public final class FaceTest {
         "int when(int,int,int,boolean)", "int settled(int,int)", "int quarrels(int)", "int stick(int,int)",
         "int count(int)", "int range(int,int,int,boolean)", "int alike(int)", "int peace(int,int)",
         "int moved(int,int)", "double freshShare()", "long digest()");
+    private static final Set<String> THROWN = Set.of("IllegalStateException", "IllegalArgumentException",
+        "IndexOutOfBoundsException");
     private static final int[] ODD = {Integer.MIN_VALUE, -1001, -91, -6, -1, 0, 1, 2, 5, 10, 33, 126, 365, 366, 400, 999,
         1000, Integer.MAX_VALUE - 1, Integer.MAX_VALUE};
 
     public static void main(String[] args) throws Exception {
         face();
         language();
+        shape();
+        lengths();
         room();
         oddArguments();
         check.finish("FaceTest");
@@ -66,8 +72,58 @@ public final class FaceTest {
     private static void language() throws Exception {
         String source = Files.readString(Path.of("src/main/java/RunicSticks.java"));
         for (String word : new String[] {"import ", "->", "::", "catch", "finally", "Double", "Math.", "synchronized",
-            "assert ", "package ", "System."}) {
+            "assert ", "package ", "System.", "static {", "\" +", "+ \"", "Float", ".equals(", "instanceof"}) {
             check.same("the source has '" + word + "'", source.indexOf(word), -1);
+        }
+        check.same("the source's signs are 1 to 127", source.chars().filter(c -> c < 1 || c > 127).count(), 0);
+        for (String thrown : source.split("throw new ", -1)) {
+            String name = thrown.substring(0, Math.max(0, thrown.indexOf('(')));
+            boolean begins = source.startsWith(thrown);
+            check.same("throws " + name, begins || THROWN.contains(name) ? 1 : 0, 1);
+        }
+    }
+
+    /** Rules 1, 2, 5 and 11: how many classes, fields and parameters there are, and what is static. */
+    private static void shape() {
+        List<Class<?>> classes = new ArrayList<>(List.of(RunicSticks.class.getDeclaredClasses()));
+        for (Class<?> inside : classes) {
+            int modifiers = inside.getModifiers();
+            check.same(inside + " is private and static",
+                Modifier.isPrivate(modifiers) && Modifier.isStatic(modifiers) ? 1 : 0, 1);
+        }
+        classes.add(RunicSticks.class);
+        check.same("classes: " + classes.size(), classes.size() <= 12 ? 1 : 0, 1);
+        for (Class<?> one : classes) {
+            int fields = 0;
+            for (Field f : one.getDeclaredFields()) {
+                boolean isStatic = Modifier.isStatic(f.getModifiers());
+                check.same(f + " is final if static", !isStatic || Modifier.isFinal(f.getModifiers()) ? 1 : 0, 1);
+                fields += isStatic ? 0 : 1;
+            }
+            check.same("fields of " + one + ": " + fields, fields <= 20 ? 1 : 0, 1);
+            for (Method m : one.getDeclaredMethods()) {
+                check.same("parameters of " + m, m.getParameterCount() <= 7 ? 1 : 0, 1);
+                check.same("handed-over variables in " + m, m.isSynthetic() ? 1 : 0, 0);
+            }
+        }
+    }
+
+    /** Rule 11: methods stay short. A member begins and ends at the same indentation. */
+    private static void lengths() throws Exception {
+        List<String> lines = Files.readAllLines(Path.of("src/main/java/RunicSticks.java"));
+        for (int depth = 4; depth <= 8; depth += 4) {
+            String begin = " ".repeat(depth);
+            int from = -1;
+            for (int i = 0; i < lines.size(); i++) {
+                String line = lines.get(i);
+                if (line.equals(begin + "}") && from >= 0) {
+                    check.same("lines of " + lines.get(from).trim() + " " + (i - from + 1), i - from < 60 ? 1 : 0, 1);
+                    from = -1;
+                } else if (line.startsWith(begin) && line.charAt(depth) != ' ' && line.contains("(")
+                        && line.endsWith("{")) {
+                    from = i;
+                }
+            }
         }
     }
 
