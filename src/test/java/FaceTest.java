@@ -13,12 +13,18 @@ import java.util.TreeSet;
 /** The public face, what the language rules out, how little the calls make, and odd arguments of every call. */
 public final class FaceTest {
     private static final Check check = new Check();
-    private static final Set<String> FACE = Set.of("int proclaim()", "int forget()", "int rank(int,int)",
-        "int teach(int,int)", "int carve(int,int)", "int burn(int)", "int set(int)", "int append(int)",
-        "int clearBuffer()", "int firstError()", "int undo()", "int day(int,int,int)", "int feast(int,int)",
-        "int when(int,int,int,boolean)", "int settled(int,int)", "int quarrels(int)", "int stick(int,int)",
-        "int count(int)", "int range(int,int,int,boolean)", "int alike(int)", "int peace(int,int)",
-        "int moved(int,int)", "double freshShare()", "long digest()");
+    private static final String NO_SUCH = " IndexOutOfBoundsException";
+    private static final String WRONG = " IllegalArgumentException";
+    private static final String NOT_NOW = " IllegalStateException";
+    /** The exceptions stand in the order of the throws clause. */
+    private static final Set<String> FACE = Set.of("int proclaim()" + WRONG, "int forget()" + NOT_NOW,
+        "int rank(int,int)" + NO_SUCH + WRONG, "int teach(int,int)" + WRONG, "int carve(int,int)" + WRONG,
+        "int burn(int)" + NO_SUCH, "int set(int)" + WRONG, "int append(int)" + WRONG + NOT_NOW, "int clearBuffer()",
+        "int firstError()", "int undo()" + NOT_NOW, "int day(int,int,int)" + WRONG,
+        "int feast(int,int)" + NO_SUCH + WRONG, "int when(int,int,int,boolean)" + NO_SUCH + WRONG,
+        "int settled(int,int)" + NO_SUCH + WRONG, "int quarrels(int)" + WRONG, "int stick(int,int)" + NO_SUCH + WRONG,
+        "int count(int)" + WRONG, "int range(int,int,int,boolean)" + NO_SUCH + WRONG, "int alike(int)" + WRONG,
+        "int peace(int,int)" + WRONG, "int moved(int,int)" + WRONG, "double freshShare()", "long digest()");
     private static final Set<String> THROWN = Set.of("IllegalStateException", "IllegalArgumentException",
         "IndexOutOfBoundsException");
     private static final int[] ODD = {Integer.MIN_VALUE, -1001, -91, -6, -1, 0, 1, 2, 5, 10, 33, 126, 365, 366, 400, 999,
@@ -66,7 +72,11 @@ public final class FaceTest {
             s.append(between).append(type.getName());
             between = ",";
         }
-        return s.append(')').toString();
+        s.append(')');
+        for (Class<?> thrown : m.getExceptionTypes()) {
+            s.append(' ').append(thrown.getSimpleName());
+        }
+        return s.toString();
     }
 
     private static void language() throws Exception {
